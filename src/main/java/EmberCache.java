@@ -111,9 +111,10 @@ public final class EmberCache {
     }
 
     public long unmix(long m) {
-        long x = foldHalves(m) * FACTOR_INVERSE;
-        x = foldHalves(x) * FACTOR_INVERSE;
-        return foldHalves(x);
+        // x ^ (x >>> 32) undoes itself.
+        long x = (m ^ (m >>> 32)) * FACTOR_INVERSE;
+        x = (x ^ (x >>> 32)) * FACTOR_INVERSE;
+        return x ^ (x >>> 32);
     }
 
     public int setOf(long key) {
@@ -232,14 +233,10 @@ public final class EmberCache {
         return set >= 0 && set < SETS;
     }
 
-    private static long foldHalves(long x) {
-        return x ^ (x >>> 32);
-    }
-
     private static long mixOf(long key) {
-        long x = foldHalves(key) * FACTOR;
-        x = foldHalves(x) * FACTOR;
-        return foldHalves(x);
+        long x = (key ^ (key >>> 32)) * FACTOR;
+        x = (x ^ (x >>> 32)) * FACTOR;
+        return x ^ (x >>> 32);
     }
 
     private static int setOfMix(long mixed) {
@@ -257,6 +254,7 @@ public final class EmberCache {
         private final long key;
         private final int set;
         private final long bits;
+        private final int places;
         private final int words;
         private final int first;
         private final int step;
@@ -269,19 +267,17 @@ public final class EmberCache {
             this.key = key;
             this.set = setOfMix(mixed);
             this.bits = filterBits(mixed);
+            this.places = PLACES_BESIDE_WORDS + words;
             this.words = words;
             this.first = first;
             this.step = step;
-        }
-
-        int places() {
-            return PLACES_BESIDE_WORDS + words;
         }
     }
 
     /** Items one behind the other, up to a bound: a page, or a list that is worked on. */
     private static final class Row {
         private final Item[] items;
+        // Only add() makes it more, and not beyond the length of items.
         private int size;
 
         Row(int bound) {
@@ -289,11 +285,11 @@ public final class EmberCache {
         }
 
         Item at(int i) {
-            return i >= 0 && i < size && i < items.length ? items[i] : null;
+            return i >= 0 && i < size ? items[i] : null;
         }
 
         void add(Item item) {
-            if (size >= 0 && size < items.length) {
+            if (size < items.length) {
                 items[size] = item;
                 size++;
             }
@@ -320,7 +316,7 @@ public final class EmberCache {
 
         /** Leaves a hole, so that the numbers of the others stay. */
         void blank(int i) {
-            if (i >= 0 && i < size && i < items.length) {
+            if (i >= 0 && i < size) {
                 items[i] = null;
             }
         }
@@ -329,7 +325,7 @@ public final class EmberCache {
             if (i < 0 || i >= size) {
                 return;
             }
-            for (int k = i + 1; k < size && k < items.length; k++) {
+            for (int k = i + 1; k < size; k++) {
                 items[k - 1] = items[k];
             }
             size--;
@@ -338,7 +334,7 @@ public final class EmberCache {
         /** The number of the first item with the key, -1 if there is none. */
         int indexOf(long key) {
             for (int i = 0; i < size; i++) {
-                Item item = at(i);
+                Item item = items[i];
                 if (item != null && item.key == key) {
                     return i;
                 }
@@ -348,7 +344,7 @@ public final class EmberCache {
 
         Item findInLog(long key) {
             for (int i = 0; i < size; i++) {
-                Item item = at(i);
+                Item item = items[i];
                 if (item != null && item.key == key && item.inLog) {
                     return item;
                 }
@@ -359,7 +355,7 @@ public final class EmberCache {
         int countInLog() {
             int living = 0;
             for (int i = 0; i < size; i++) {
-                Item item = at(i);
+                Item item = items[i];
                 if (item != null && item.inLog) {
                     living++;
                 }
@@ -370,22 +366,22 @@ public final class EmberCache {
         int places() {
             int sum = 0;
             for (int i = 0; i < size; i++) {
-                Item item = at(i);
+                Item item = items[i];
                 if (item != null) {
-                    sum += item.places();
+                    sum += item.places;
                 }
             }
             return sum;
         }
 
         boolean hasRoomFor(Item item) {
-            return places() + item.places() <= PAGE_PLACES;
+            return places() + item.places <= PAGE_PLACES;
         }
 
         long filterOfKeys() {
             long bits = 0;
             for (int i = 0; i < size; i++) {
-                Item item = at(i);
+                Item item = items[i];
                 if (item != null) {
                     bits |= item.bits;
                 }
@@ -396,7 +392,7 @@ public final class EmberCache {
         /** Whether all keys are of one set, and each is there once. */
         boolean belongsTo(int set) {
             for (int i = 0; i < size; i++) {
-                Item item = at(i);
+                Item item = items[i];
                 if (item == null || item.set != set || indexOf(item.key) != i) {
                     return false;
                 }
@@ -461,7 +457,11 @@ public final class EmberCache {
             layOutOthers(page, group);
             int stood = bench.size;
             bench.addAll(group);
-            dropTooMuch(stood);
+            // Each pass begins only if all that the one before it could drop is gone.
+            int over = bench.places() - PAGE_PLACES;
+            over = dropPass(0, stood, true, over, DROPPED_WITHOUT_MARK);
+            over = dropPass(0, stood, false, over, DROPPED_WITH_MARK);
+            dropPass(stood, bench.size, false, over, DROPPED_OF_MOVED);
             standing -= page.size;
             refill(page);
             standing += page.size;
@@ -479,20 +479,12 @@ public final class EmberCache {
             }
         }
 
-        /** Each pass begins only if all that the one before it could drop is gone. */
-        private void dropTooMuch(int stood) {
-            int over = bench.places() - PAGE_PLACES;
-            over = dropPass(0, stood, true, over, DROPPED_WITHOUT_MARK);
-            over = dropPass(0, stood, false, over, DROPPED_WITH_MARK);
-            dropPass(stood, bench.size, false, over, DROPPED_OF_MOVED);
-        }
-
         private int dropPass(int from, int to, boolean spareMarked, int over, int countedAs) {
             int left = over;
             for (int i = from; i < to && left > 0; i++) {
                 Item item = bench.at(i);
                 if (item != null && !(spareMarked && item.marked)) {
-                    left -= item.places();
+                    left -= item.places;
                     bench.blank(i);
                     tally[countedAs]++;
                 }
@@ -560,7 +552,7 @@ public final class EmberCache {
         // The pages of segment s have the numbers from s * SEGMENT_PAGES on.
         private final Row[] ring;
         private final int[] written;
-        private final Row openPage;
+        private Row openPage;
         private final Row takenOut;
         private final Row group;
         private final SetPages sets;
@@ -615,9 +607,10 @@ public final class EmberCache {
 
         private void writeOpenPage() {
             if (written[head] < SEGMENT_PAGES) {
-                Row page = ring[head * SEGMENT_PAGES + written[head]];
-                page.clear();
-                page.addAll(openPage);
+                int page = head * SEGMENT_PAGES + written[head];
+                Row empty = ring[page];
+                ring[page] = openPage;
+                openPage = empty;
                 written[head]++;
                 tally[LOG_PAGES_WRITTEN]++;
             }
@@ -645,7 +638,8 @@ public final class EmberCache {
             }
             gather(item.set, i);
             if (group.size >= 2) {
-                moveGroup(item.set);
+                killGroup();
+                sets.moveIn(item.set, group);
             } else if (item.marked) {
                 putAnew(item);
             } else {
@@ -670,11 +664,10 @@ public final class EmberCache {
             group.addInLog(openPage, 0, set);
         }
 
-        private void moveGroup(int set) {
+        private void killGroup() {
             for (int i = 0; i < group.size; i++) {
                 kill(group.at(i));
             }
-            sets.moveIn(set, group);
         }
 
         /**
