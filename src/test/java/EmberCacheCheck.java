@@ -102,11 +102,90 @@ public final class EmberCacheCheck {
         due("that, and the filter as if it were empty", x.check(), 2);
     }
 
+    /** An item that some cache has just put, as a piece to break another with. */
+    private static Object loose(long key, int words) throws Exception {
+        EmberCache x = new EmberCache();
+        x.put(key, words, 0, 0);
+        Object item = itemAt(part(part(x, "log"), "openPage"), 0);
+        field(item, "inLog").setBoolean(item, false);
+        return item;
+    }
+
+    private static void places(String what, EmberCache x, Object row) throws Exception {
+        addItem(row, loose(0, 12));
+        addItem(row, loose(0, 10));
+        addItem(row, loose(0, 1));
+        due(what + " of 32 places", x.check(), 0);
+        ((Object[]) part(row, "items"))[1] = loose(0, 11);
+        due(what + " of 33 places", x.check(), 1);
+    }
+
+    private static void breakEachPageOfTheLog() throws Exception {
+        EmberCache x = new EmberCache();
+        places("an open page", x, part(part(x, "log"), "openPage"));
+        for (int page = 0; page < 32; page++) {
+            x = new EmberCache();
+            places("page " + page + " of the log", x, ((Object[]) part(part(x, "log"), "ring"))[page]);
+        }
+    }
+
+    private static void breakEachSetPage() throws Exception {
+        for (int set = 0; set < 64; set++) {
+            EmberCache x = new EmberCache();
+            Object page = pageOfSet(x, set);
+            long[] filters = (long[]) part(part(x, "sets"), "filters");
+            addItem(page, loose(x.unmix(set), 12));
+            addItem(page, loose(x.unmix(4096 | set), 10));
+            addItem(page, loose(x.unmix(8192 | set), 1));
+            addTo(part(x, "sets"), "standing", 3);
+            filters[set] = 0b111;
+            due("set page " + set + " of 32 places", x.check(), 0);
+            addTo(part(x, "sets"), "standing", -1);
+            due("one of set page " + set + " not counted", x.check(), 1);
+            addTo(part(x, "sets"), "standing", 1);
+            ((Object[]) part(page, "items"))[1] = loose(x.unmix(4096 | set), 11);
+            due("set page " + set + " of 33 places", x.check(), 1);
+            ((Object[]) part(page, "items"))[1] = loose(x.unmix(8192 | set), 1);
+            filters[set] = 0b101;
+            due("a key twice in set page " + set, x.check(), 1);
+            ((Object[]) part(page, "items"))[1] = loose(x.unmix(8192 | (set ^ 1)), 1);
+            due("a key of another set in set page " + set, x.check(), 1);
+            ((Object[]) part(page, "items"))[1] = loose(x.unmix(4096 | set), 1);
+            due("the filter of set page " + set + " wrong", x.check(), 1);
+        }
+    }
+
+    private static void breakEachSetOfTheLog() throws Exception {
+        for (int set = 0; set < 64; set++) {
+            EmberCache x = new EmberCache();
+            x.put(x.unmix(set), 1, 0, 0);
+            Object twin = loose(x.unmix(set), 1);
+            addItem(((Object[]) part(part(x, "log"), "ring"))[set % 32], twin);
+            due("a dead one with the same key, of set " + set, x.check(), 0);
+            field(twin, "inLog").setBoolean(twin, true);
+            addTo(part(x, "log"), "living", 1);
+            due("a key of set " + set + " alive twice", x.check(), 1);
+        }
+    }
+
+    private static void breakAll() throws Exception {
+        EmberCache x = filled();
+        Object openPage = part(part(x, "log"), "openPage");
+        addItem(openPage, itemAt(openPage, 0));
+        addItem(openPage, itemAt(openPage, 0));
+        addItem(pageOfSet(x, 6), itemAt(pageOfSet(x, 5), 0));
+        due("everything broken", x.check(), 5);
+    }
+
     public static void main(String[] args) throws Exception {
         breakCounts();
         breakFilter();
         breakLog();
         breakSetPages();
+        breakEachPageOfTheLog();
+        breakEachSetPage();
+        breakEachSetOfTheLog();
+        breakAll();
         System.out.println(wrong == 0 ? "all answers are as due" : wrong + " answers are not as due");
         if (wrong != 0) System.exit(1);
     }
