@@ -190,6 +190,30 @@ public final class EmberCacheEdges {
         due("count(12)", x.count(12), 0);
     }
 
+    /** A key of the same SET, with another one of its two halves. */
+    private static long mateWithOtherHalf(long key, int shift) {
+        int set = (int) (mixOf(key) & 63);
+        long mate = key;
+        for (long i = 1; i < 100000 && (mate == key || (mixOf(mate) & 63) != set); i++) mate = key ^ (i << shift);
+        return mate;
+    }
+
+    private static void keysThatShareAHalf() {
+        says("Keys differ: as 64 bits, be it in one half alone");
+        long a = keyOf(5, 1, 2, 3);
+        long high = mateWithOtherHalf(a, 32);
+        long low = mateWithOtherHalf(a, 0);
+        Ring r = new Ring().put(1, a).put(2, high).put(3, low).turn();
+        page("of three", r.x, 5, a, high, low);
+        due("get", r.x.get(a), 1);
+        due("get of the other high half", r.x.get(high), 2);
+        due("get of the other low half", r.x.get(low), 3);
+        due("remove of the other high half", r.x.remove(high), 1);
+        page("of two", r.x, 5, a, low);
+        r.put(4, low).put(5, high).turn();
+        page("of three again", r.x, 5, a, low, high);
+    }
+
     private static void keyZeroStands() {
         says("Each long is the MIX of just one key: 0 stands in a page as any other");
         Ring r = new Ring().put(2, 0, keyOf(0, 1, 1, 1)).turn();
@@ -450,6 +474,18 @@ public final class EmberCacheEdges {
         counts("one more", r.x, 0, 9, 36, 0, 0, 0, 0, 0, 0, 0, 1, 31, 0, 33, 0, 4, 1, 0, 0);
     }
 
+    private static void writtenAgainAndAgain() {
+        says("as long as it does not fit into the open page any more, that is WRITTEN: segment for segment, if all is put anew");
+        Ring r = new Ring();
+        for (int set = 0; set < 64; set++) r.put(12, keyOf(set, 0, 0, 1));
+        for (int set = 0; set < 24; set++) r.mark(keyOf(set, 0, 0, 1));
+        due("put", r.x.put(FILLER, 12, 0, 0), 1);
+        counts("three segments were put anew, one dropped", r.x, 0, 11, 44, 0, 0, 0, 0, 0, 0, 0, 8, 24, 0, 57, 0, 15, 3, 0, 0);
+        aliveIn("three segments were put anew, one dropped", r.x, 8, 8, 8, 0, 8, 8, 8, 8, 1);
+        for (int set = 0; set < 64; set++) due("where", r.x.where(keyOf(set, 0, 0, 1)), set < 24 || set > 31 ? 1 : 0);
+        due("check", r.x.check(), 0);
+    }
+
     private static void putAnewIsTheNewest() {
         says("PUT ANEW: APPENDED: it is younger then than what was appended before");
         long[] k = keysOf(5, 2);
@@ -567,6 +603,7 @@ public final class EmberCacheEdges {
         long[] k = keysOf(5, 4);
         Ring r = new Ring().put(12, k[0]).put(1, k[1]).turn().put(2, k[2]).put(6, k[3]).turn();
         page("15 + 4 + 5 + 9", r.x, 5, k[1], k[2], k[3]);
+        due("filter: what was DROPPED is not in it", r.x.filter(5), 0b1110);
         counts("15 + 4 + 5 + 9", r.x, 5, 4, 1, 0, 0, 0, 0, 2, 1, 3);
         r = new Ring().put(12, k[0]).put(11, k[1]).put(1, k[2]).turn();
         page("15 + 14 + 4, all moved", r.x, 5, k[1], k[2]);
@@ -744,6 +781,28 @@ public final class EmberCacheEdges {
                 }
             }
         }
+    }
+
+    private static void getFindsNone() {
+        says("How many WORDS the value has that is found; 0: none is.");
+        long[] k = keysOf(5, 3);
+        Ring r = new Ring();
+        due("get from an empty one", r.x.get(k[0]), 0);
+        for (int n = 1; n <= 12; n++) {
+            r.put(n, k[0]);
+            due("get of " + n + " words", r.x.get(k[0]), n);
+        }
+        due("get of another", r.x.get(k[1]), 0);
+        r.x.remove(k[0]);
+        due("get of one that was removed", r.x.get(k[0]), 0);
+        r = new Ring().put(7, k[0]).put(1, k[1]).turn();
+        due("get from a page", r.x.get(k[0]), 7);
+        due("get from a page", r.x.get(k[1]), 1);
+        due("get of one that the page MAY HAVE", r.x.get(keyOf(5, 0, 1, 9)), 0);
+        due("get of one that it may not", r.x.get(k[2]), 0);
+        r.put(2, k[2]).turn();
+        due("count(9)", r.x.count(9), 1);
+        due("get of one that was DROPPED ALONE", r.x.get(k[2]), 0);
     }
 
     private static void gotOutOfBounds() {
@@ -1144,6 +1203,7 @@ public final class EmberCacheEdges {
         unmixOfEdges();
         setsOfEdges();
         keysAreLongs();
+        keysThatShareAHalf();
         keyZeroStands();
         placesOfEachLength();
         openPageJustFull();
@@ -1166,6 +1226,7 @@ public final class EmberCacheEdges {
         droppedAloneWithoutPage();
         putAnewFillsAllPages();
         putAnewLeavesRoom();
+        writtenAgainAndAgain();
         putAnewIsTheNewest();
     }
 
@@ -1193,6 +1254,7 @@ public final class EmberCacheEdges {
         emptyAndOpen();
         wordsOutOfBounds();
         wordsWrapAround();
+        getFindsNone();
         gotOutOfBounds();
         gotOutlivesTheObject();
         gotIsNeverShut();
