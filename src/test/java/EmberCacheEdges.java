@@ -364,6 +364,18 @@ public final class EmberCacheEdges {
         counts("with dead ones alone", r.x, 2, 0, 0, 0, 0, 0, 0, 0, 0, 0, 0, 1, 0);
     }
 
+    private static void goneThroughInOrder() {
+        says("gone through, in the order in which they were appended: what is put anew lies so, too");
+        long[] k = {keyOf(1, 0, 0, 1), keyOf(2, 0, 0, 1), keyOf(3, 0, 0, 1), keyOf(4, 0, 0, 1)};
+        Ring r = new Ring().put(12, k[0], k[1]).put(1, k[2]).put(12, k[3]).mark(k);
+        r.spinTo(31).put(12, FILLER).put(1, FILLER);
+        counts("15 + 15, 4 + 15", r.x, 0, 8, 33, 0, 0, 0, 0, 0, 0, 0, 0, 4, 0, 5, 0, 23, 0, 1, 0);
+        aliveIn("15 + 15, 4 + 15", r.x, 2, 0, 0, 0, 0, 0, 0, 0, 3);
+        r.x.remove(k[0]);
+        r.x.remove(k[1]);
+        aliveIn("the first two lie in the first page", r.x, 0, 0, 0, 0, 0, 0, 0, 0, 3);
+    }
+
     private static void goneThroughWhileAlive() {
         says("each that is alive still");
         long[] a = keysOf(5, 2);
@@ -472,6 +484,45 @@ public final class EmberCacheEdges {
         due("where of the one without a mark", r.x.where(keyOf(7, 0, 0, 1)), 0);
         r.x.put(FILLER, 1, 1, 1);
         counts("one more", r.x, 0, 9, 36, 0, 0, 0, 0, 0, 0, 0, 1, 31, 0, 33, 0, 4, 1, 0, 0);
+    }
+
+    /** Objects of all lengths fill segment 0, each of its own SET; all but one are put anew. */
+    private static void putAnewButOne(int many, int missing) {
+        Ring r = new Ring();
+        int anewPages = 0;
+        int anewOpen = 0;
+        for (int set = 0; set < many; set++) {
+            int n = lengthOf(set);
+            r.put(n, keyOf(set, 0, 0, 1));
+            if (set == missing) continue;
+            r.mark(keyOf(set, 0, 0, 1));
+            anewPages += anewOpen + 3 + n > 32 ? 1 : 0;
+            anewOpen = anewOpen + 3 + n > 32 ? 3 + n : anewOpen + 3 + n;
+        }
+        due("pages of segment 0, the open one, too", r.pages + 1, 4);
+        due("what is put anew fits into them without " + missing, anewPages < 4 ? 1 : 0, 1);
+        r.spinTo(31).put(12, FILLER).put(1, FILLER);
+        int pages = anewPages + (anewOpen + 4 > 32 ? 1 : 0);
+        counts("without " + missing, r.x, 9, 1, many - 1);
+        due("count(1) without " + missing, r.x.count(1), 32 + pages);
+        due("count(0) without " + missing, r.x.count(0), 8 + pages / 4);
+        due("count(14) without " + missing, r.x.count(14), anewOpen + 4 > 32 ? 4 : anewOpen + 4);
+        due("count(12) without " + missing, r.x.count(12), many);
+    }
+
+    private static int lengthOf(int i) {
+        return 1 + 7 * i % 12;
+    }
+
+    private static void putAnewWithGaps() {
+        says("What is put anew takes no more pages than there were: whichever is missing");
+        int pages = 0;
+        int many = 0;
+        for (int open = 0; pages < 4; many++) {
+            pages += open + 3 + lengthOf(many) > 32 ? 1 : 0;
+            open = open + 3 + lengthOf(many) > 32 ? 3 + lengthOf(many) : open + 3 + lengthOf(many);
+        }
+        for (int missing = 0; missing < many - 1; missing++) putAnewButOne(many - 1, missing);
     }
 
     private static void writtenAgainAndAgain() {
@@ -682,7 +733,39 @@ public final class EmberCacheEdges {
         due("count(2)", r.x.count(2), 2);
     }
 
+    private static void marksOfTheOthersStay() {
+        says("TAKEN OUT: .. its object goes, and the page is WRITTEN: the others keep their places and marks");
+        long[] k = keysOf(5, 4);
+        Ring r = new Ring().put(3, k).turn().mark(k[0], k[2]).put(3, k[1]).turn();
+        counts("k[1] was DROPPED ALONE", r.x, 2, 1, 1, 0, 4, 0, 0, 0, 1, 0, 4, 1, 3);
+        page("k[1] was DROPPED ALONE", r.x, 5, k[0], k[2], k[3]);
+        due("mark before it", r.x.mark(k[0]), 1);
+        due("mark behind it", r.x.mark(k[2]), 1);
+        due("mark of one without", r.x.mark(k[3]), 0);
+        says("remove(): .. TAKEN OUT of its page, too: the others keep their places and marks");
+        r = new Ring().put(3, k).turn().mark(k[0], k[2]);
+        due("remove", r.x.remove(k[1]), 1);
+        page("k[1] was removed", r.x, 5, k[0], k[2], k[3]);
+        due("mark before it", r.x.mark(k[0]), 1);
+        due("mark behind it", r.x.mark(k[2]), 1);
+        due("mark of one without", r.x.mark(k[3]), 0);
+        for (int i : new int[] {0, 2, 3}) due("get", r.x.get(k[i]), 3);
+    }
+
     // ---- Terms: put, get, remove over both
+
+    private static void removeLooksIntoThePage() {
+        says("what is alive in the log is dead; and it is TAKEN OUT of its page, too: READ, if that MAY HAVE it");
+        long[] k = keysOf(5, 2);
+        long like = keyOf(5, 0, 1, 9);
+        long unlike = keyOf(5, 0, 9, 9);
+        Ring r = new Ring().put(3, k).turn().put(3, like, unlike);
+        due("remove from the log, the page MAY HAVE it", r.x.remove(like), 1);
+        counts("READ, not written", r.x, 2, 1, 0, 0, 2, 0, 0, 0, 0, 0, 2, 2, 2);
+        due("remove from the log, the page may not", r.x.remove(unlike), 1);
+        counts("neither", r.x, 2, 1, 0, 0, 2, 0, 0, 0, 0, 0, 2, 1, 2);
+        page("as it was", r.x, 5, k);
+    }
 
     private static void hiddenInThePage() {
         says("What a set page has of that key stays, but is not found any more as long as one is alive in the log.");
@@ -731,7 +814,10 @@ public final class EmberCacheEdges {
 
     private static void emptyAndOpen() {
         says("Empty, open; all counts are 0.");
-        EmberCache x = new EmberCache();
+        isNew(new EmberCache());
+    }
+
+    private static void isNew(EmberCache x) {
         counts("of a new object", x, 0, new int[18]);
         aliveIn("of a new object", x, new int[9]);
         for (int i = -1; i <= 12; i++) due("got(" + i + ")", x.got(i), 0);
@@ -748,6 +834,51 @@ public final class EmberCacheEdges {
         due("check", x.check(), 0);
         due("count(11) behind it all", x.count(11), 0);
         due("open", x.open(), BAD);
+    }
+
+    private static void eachNewObject() {
+        says("Empty, open; all counts are 0: each new object, whatever another went through");
+        long[] k = keysOf(5, 7);
+        EmberCache busy = busy(k).x;
+        isNew(new EmberCache());
+        long[] before = look(busy, 5, k);
+        EmberCache other = busy(k).x;
+        due("crash of another", other.crash(), 2);
+        isNew(new EmberCache());
+        same("behind what another went through", before, look(busy, 5, k));
+        due("close", busy.close(), 1);
+        isNew(new EmberCache());
+        due("open of another", other.open(), 0);
+        due("where, CLOSED", busy.where(k[0]), SHUT);
+        due("open", busy.open(), 2);
+        same("behind what others went through", before, look(busy, 5, k));
+    }
+
+    private static void objectsBesideEachOther() {
+        says("A new object: one beside it changes nothing in it");
+        long[] want = runWith(i -> 0, new EmberCache());
+        EmberCache beside = new EmberCache();
+        long[] k = keysOf(5, 7);
+        LongUnaryOperator calls = i -> beside.put(k[(int) i % 7], 12, 1, 1) + beside.get(k[0]) + beside.remove(FILLER);
+        same("with another's calls in between", want, runWith(calls, new EmberCache()));
+        EmberCache shut = new EmberCache();
+        same("with another's close and crash in between", want,
+            runWith(i -> shut.close() + shut.open() + shut.crash(), new EmberCache()));
+    }
+
+    private static void fiveHundredAndTwelveCalls() {
+        says("An object is used for at most 512 calls after it has been made: the last one is answered, too");
+        int[] want = {63, 255, 0, 0, 0, 0, 0, 0, 0, 0, 0, 0, 1, 0, 15, 7, 3, 0};
+        for (int what = 0; what < 18; what++) {
+            EmberCache x = new EmberCache();
+            for (int i = 0; i < 511; i++) x.put(FILLER, 12, i, 0);
+            due("count(" + what + ") as the last call", x.count(what), want[what]);
+        }
+        long[] k = keysOf(5, 2);
+        EmberCache x = new EmberCache();
+        for (int i = 0; i < 510; i++) x.put(i % 64 < 2 ? k[i % 64] : FILLER, 12, i, 1);
+        due("get as call 511", x.get(k[1]), 12);
+        due("got as the last call: what was put seven rounds later", x.got(2), 7 * 64 + 1 + 2);
     }
 
     private static void wordsOutOfBounds() {
@@ -1217,6 +1348,7 @@ public final class EmberCacheEdges {
         deadBeforeItIsAppended();
         notYetAppended();
         deadOnesAreNotGoneThrough();
+        goneThroughInOrder();
         goneThroughWhileAlive();
         twoAreMoved();
         mateInTheNewestPage();
@@ -1226,6 +1358,7 @@ public final class EmberCacheEdges {
         droppedAloneWithoutPage();
         putAnewFillsAllPages();
         putAnewLeavesRoom();
+        putAnewWithGaps();
         writtenAgainAndAgain();
         putAnewIsTheNewest();
     }
@@ -1245,13 +1378,18 @@ public final class EmberCacheEdges {
         droppedFirstOfThoseThatStood();
         droppedOfTheMovedLast();
         marksAreCleared();
+        marksOfTheOthersStay();
         hiddenInThePage();
         markOfTheOneFound();
         removeOfNothing();
+        removeLooksIntoThePage();
     }
 
     private static void promises() {
         emptyAndOpen();
+        eachNewObject();
+        objectsBesideEachOther();
+        fiveHundredAndTwelveCalls();
         wordsOutOfBounds();
         wordsWrapAround();
         getFindsNone();
